@@ -60,8 +60,7 @@ public final class BeginTest {
     }
 
     private static void cutAfter(int k) {
-        SwapLoader x = Check.patched();
-        x.begin(9, 20);
+        SwapLoader x = Check.running();
         x.begin(9, 96);
         Check.feedAll(x, 63, 63);
         int[] want = Check.flash(x);
