@@ -1,4 +1,5 @@
 import java.util.NoSuchElementException;
+import java.util.function.IntSupplier;
 
 /** Counts the answers that are not as due; helpers that several tests share. */
 final class Check {
@@ -59,7 +60,41 @@ final class Check {
         due("byteAt(" + address + ") throws NoSuchElementException", thrown, true);
     }
 
-    /** A call that is refused leaves everything as it was. */
+    /** A call that answers so, and nothing is changed by it: not the flash, no state, not the cut. */
+    void dueIdle(String name, SwapLoader x, IntSupplier call, int answer) {
+        int[] flash = flash(x);
+        int[] states = states(x);
+        int left = cutLeft(x);
+        due(name, call.getAsInt(), answer);
+        dueUnchanged(name, x, flash, states);
+        due(name + ": the cut", cutLeft(x), left);
+    }
+
+    /** A call that is refused with BAD. */
+    void dueBad(String name, SwapLoader x, IntSupplier call) {
+        dueIdle(name, x, call, BAD);
+    }
+
+    /**
+     * A call that is cut after so many operations, and what is so then: no power,
+     * nothing runs, no patch, the cut is over, and the operation that came too
+     * late is not counted.
+     */
+    void dueGone(String name, SwapLoader x, IntSupplier call, int operations) {
+        int before = x.state(6);
+        x.cut(operations);
+        due(name, call.getAsInt(), GONE);
+        dueStates(name, x, 0, 0, 0, 0);
+        due(name + ": operations", x.state(6), before + operations);
+        due(name + ": the cut is over", x.safe(), -1);
+        dueIdle(name + ": off", x, () -> x.off() ? 1 : 0, 0);
+        dueBad(name + ": begin", x, () -> x.begin(9, 20));
+        dueBad(name + ": feed", x, () -> x.feed(0, 1));
+        dueBad(name + ": request", x, x::request);
+        dueBad(name + ": confirm", x, x::confirm);
+    }
+
+    /** Everything is as it was. */
     void dueUnchanged(String call, SwapLoader x, int[] flashBefore, int[] statesBefore) {
         dueFlash("after " + call, flash(x), flashBefore);
         dueStates("after " + call, x, statesBefore);
@@ -88,6 +123,15 @@ final class Check {
         return states;
     }
 
+    /** How many operations are left until the cut, or -1; the cut stays. */
+    static int cutLeft(SwapLoader x) {
+        int left = x.safe();
+        if (left >= 0) {
+            x.cut(left);
+        }
+        return left;
+    }
+
     /** The sum of an image as the document tells it. */
     static int sum(int[] flash, int start, int version, int length) {
         int s = 7;
@@ -113,6 +157,13 @@ final class Check {
         SwapLoader x = new SwapLoader();
         x.factory(7, 96, 5);
         x.boot();
+        return x;
+    }
+
+    /** Version 7 runs, and a patch for version 8 is begun. */
+    static SwapLoader begun(int length) {
+        SwapLoader x = running();
+        x.begin(8, length);
         return x;
     }
 

@@ -17,14 +17,8 @@ public final class FeedTest {
         CHECK.end();
     }
 
-    private static SwapLoader begun(int length) {
-        SwapLoader x = Check.running();
-        x.begin(8, length);
-        return x;
-    }
-
     private static void copy() {
-        SwapLoader x = begun(96);
+        SwapLoader x = Check.begun(96);
         CHECK.due("COPY 1", x.feed(0, 1), 5);
         CHECK.due("COPY 64", x.feed(63, 1), 69);
         CHECK.due("place", x.state(3), 69);
@@ -35,7 +29,7 @@ public final class FeedTest {
     }
 
     private static void seek() {
-        SwapLoader x = begun(96);
+        SwapLoader x = Check.begun(96);
         CHECK.due("SEEK", x.feed(64, 1), 4);
         CHECK.due("the place is not there yet", x.state(3), 4);
         CHECK.due("the place", x.feed(0, 1), 4);
@@ -49,7 +43,7 @@ public final class FeedTest {
     }
 
     private static void add() {
-        SwapLoader x = begun(96);
+        SwapLoader x = Check.begun(96);
         CHECK.due("ADD 3", x.feed(130, 1), 4);
         CHECK.due("a byte that looks like COPY", x.feed(5, 1), 5);
         CHECK.due("and like SEEK, and 255", x.feed(0xFF40, 2), 7);
@@ -68,7 +62,7 @@ public final class FeedTest {
     }
 
     private static void differ() {
-        SwapLoader x = begun(96);
+        SwapLoader x = Check.begun(96);
         CHECK.due("SEEK 20, DIFFER 2", x.feed(0xC11440, 3), 4);
         CHECK.due("place", x.state(3), 20);
         CHECK.due("differences", x.feed(0xFF01, 2), 6);
@@ -83,7 +77,7 @@ public final class FeedTest {
     }
 
     private static void places() {
-        SwapLoader x = begun(96);
+        SwapLoader x = Check.begun(96);
         CHECK.due("SEEK 94, COPY 4", x.feed(0x035E40, 3), 8);
         CHECK.due("byte 94", x.byteAt(100), x.byteAt(94));
         CHECK.due("byte 95", x.byteAt(101), x.byteAt(95));
@@ -109,21 +103,21 @@ public final class FeedTest {
     }
 
     private static void lengthBoundsCommands() {
-        SwapLoader x = begun(10);
+        SwapLoader x = Check.begun(10);
         CHECK.due("COPY 64 of 6", x.feed(63, 1), 10);
         CHECK.due("place", x.state(3), 10);
         CHECK.due("behind it", x.byteAt(96 + 10), 255);
-        SwapLoader y = begun(8);
+        SwapLoader y = Check.begun(8);
         CHECK.due("ADD 64 of 4", y.feed(0x04030201BFL, 5), 8);
         CHECK.due("DONE", y.version(1), 8);
-        SwapLoader z = begun(8);
+        SwapLoader z = Check.begun(8);
         CHECK.due("DIFFER 64 of 4", z.feed(0xFFL, 5), 8);
         CHECK.due("DONE", z.version(1), 8);
         CHECK.due("place", z.state(3), 8);
     }
 
     private static void bytesInOrder() {
-        SwapLoader x = begun(96);
+        SwapLoader x = Check.begun(96);
         CHECK.due("the n lowest only", x.feed(0x99030201_00000040L, 1), 4);
         CHECK.due("the place", x.feed(0xFFFFFF_00000010L, 1), 4);
         CHECK.due("place", x.state(3), 16);
@@ -135,7 +129,7 @@ public final class FeedTest {
     }
 
     private static void done() {
-        SwapLoader x = begun(9);
+        SwapLoader x = Check.begun(9);
         CHECK.due("not yet", Check.feedAll(x, 131, 50, 60, 70, 80), 8);
         for (int a = 96; a < 100; a++) {
             CHECK.due("no head yet: " + a, x.byteAt(a), 255);
@@ -155,7 +149,7 @@ public final class FeedTest {
     }
 
     private static void refused() {
-        SwapLoader x = begun(20);
+        SwapLoader x = Check.begun(20);
         for (int n : new int[] {0, -1, 9, Integer.MIN_VALUE, Integer.MAX_VALUE}) {
             int[] flash = Check.flash(x);
             int[] states = Check.states(x);
@@ -170,10 +164,10 @@ public final class FeedTest {
     /** Sum, length, version and mark go in this order behind the last byte. */
     private static void cutInPatch() {
         int[] order = {100, 101, 102, 103, 99, 98, 97, 96};
-        SwapLoader whole = begun(8);
+        SwapLoader whole = Check.begun(8);
         whole.feed(63, 1);
         for (int k = 0; k <= 8; k++) {
-            SwapLoader x = begun(8);
+            SwapLoader x = Check.begun(8);
             int[] want = Check.flash(x);
             for (int i = 0; i < k; i++) {
                 want[order[i]] = whole.byteAt(order[i]);
