@@ -136,6 +136,9 @@ public final class RefusedTest {
         SwapLoader back = Check.tried();
         back.boot();
         CHECK.dueBad("changed back", back, back::confirm);
+        SwapLoader notStarted = Check.tried();
+        Inside.put(notStarted, Check.STARTED, 255);
+        CHECK.due("TRIED is enough", notStarted.confirm(), 1);
     }
 
     /** Promise 8: "BAD when there is no patch". */
