@@ -124,6 +124,7 @@ public final class PatchEdgeTest {
         }
     }
 
+    /** The same of ADD: the byte behind its last one is a command again. */
     private static void addAtMostWhatIsLeft() {
         for (int n = 5; n <= 7; n++) {
             SwapLoader x = Check.begun(10);
@@ -136,6 +137,7 @@ public final class PatchEdgeTest {
         }
     }
 
+    /** The same of DIFFER. */
     private static void differAtMostWhatIsLeft() {
         for (int n = 5; n <= 7; n++) {
             SwapLoader x = Check.begun(10);
